@@ -828,7 +828,7 @@ public final class ReadingConverter {
         }
 
         int bestPaths() {
-            return hasRank(0) ? bestWays[BOUNDARY] : 0;
+            return bestWays[BOUNDARY];
         }
 
         boolean hasRank(int rank) {

@@ -265,6 +265,19 @@ public final class PromiseTests {
     due("with twenty letters", x.entriesWithPrefix(), 0);
   }
 
+  /** A shorter reading in the place of a longer one does not inherit its letters. */
+  private static void prefixAfterRemoval() {
+    ReadingConverter x = fresh();
+    add(x, "abc", 0, 0, 0);
+    x.removeEntry(0);
+    add(x, "a", 0, 0, 0);
+    type(x, "ab");
+    due("the letters of a removed entry", x.entriesWithPrefix(), 0);
+    type(x, "a");
+    due("its own letter", x.entriesWithPrefix(), 1);
+    due("it is another reading", add(x, "abc", 0, 0, 0), 1);
+  }
+
   private static void setConnection() {
     ReadingConverter x = fresh();
     due("left", x.setConnection(-1, 0, 0), ARGUMENT);
@@ -746,6 +759,46 @@ public final class PromiseTests {
     due("the constraint is back", x.setConstraint(2, 0), 1);
   }
 
+  /** The paths are asked for before and after, so that none of them may be an old answer. */
+  private static void undoAndPaths() {
+    ReadingConverter x = fresh();
+    add(x, "ab", 0, 1, 10);
+    add(x, "cd", 1, 2, 20);
+    x.setConnection(6, 1, 3);
+    input(x, "ab");
+    duePath(x, 0, 13, "0:0");
+    input(x, "cd");
+    duePath(x, 0, 20, "0:1");
+    due("segmentsAt", x.segmentsAt(0), 1);
+    due("the letters of the input", x.undo(), 4);
+    duePath(x, 0, 13, "0:0");
+    x.removeEntry(0);
+    duePath(x, 0, 200, "0:-5 1:-5");
+    due("the class of the entry", x.undo(), 4);
+    duePath(x, 0, 13, "0:0");
+    x.setConstraint(1, 1);
+    duePath(x, 0, 200, "0:-5 1:-5");
+    due("the constraint", x.undo(), 4);
+    duePath(x, 0, 13, "0:0");
+    x.setUnknownCost(1);
+    duePath(x, 0, 2, "0:-5 1:-5");
+    due("bestCount", x.bestCount(), 1);
+    due("the unknown cost", x.undo(), 4);
+    duePath(x, 0, 13, "0:0");
+    x.setConnection(1, 6, 50);
+    duePath(x, 0, 63, "0:0");
+    due("the connection", x.undo(), 4);
+    duePath(x, 0, 13, "0:0");
+    x.choose(0);
+    duePath(x, 0, 10, "0:0");
+    x.forget();
+    duePath(x, 0, 13, "0:0");
+    due("forget", x.undo(), 5);
+    duePath(x, 0, 10, "0:0");
+    due("choose", x.undo(), 4);
+    duePath(x, 0, 13, "0:0");
+  }
+
   private static void undoAndEditAgain() {
     ReadingConverter x = fresh();
     for (int cost = 1; cost <= 10; cost++) {
@@ -771,7 +824,7 @@ public final class PromiseTests {
     promise = 5; removeEntry();
     promise = 6; entryCount();
     questionsOfEntries();
-    promise = 10; entriesWithPrefix();
+    promise = 10; entriesWithPrefix(); prefixAfterRemoval();
     promise = 11; setConnection();
     promise = 12; setUnknownCost();
     promise = 13; setInput();
@@ -787,7 +840,7 @@ public final class PromiseTests {
     promise = 24; bestCount();
     promise = 25; choose();
     promise = 26; forget();
-    promise = 27; undo(); undoAndEditAgain();
+    promise = 27; undo(); undoAndPaths(); undoAndEditAgain();
     System.out.println(wrong == 0 ? "the promises hold" : wrong + " answers are not as due");
     if (wrong != 0) {
       System.exit(1);

@@ -578,7 +578,12 @@ public final class RandomRunsTest {
       case 9: push(calls, 9, around(random, 0, 6), around(random, 0, 6), around(random, 0, style.costs - 1)); break;
       case 10: push(calls, 10, around(random, 0, style.costs == 100 ? 200 : style.costs)); break;
       case 11: case 12: push(calls, 13, around(random, 1, n - 1), around(random, 0, 2)); break;
-      case 13: push(calls, 23, random.nextBoolean() ? 0 : around(random, 0, 19)); break;
+      case 13:
+        // Now and then often enough that use counts come to their limit.
+        for (int i = random.nextInt(8) == 0 ? 12 : 1; i > 0; i--) {
+          push(calls, 23, random.nextBoolean() ? 0 : around(random, 0, 19));
+        }
+        break;
       case 14: push(calls, 24 + random.nextInt(2)); break;
       default: push(calls, random.nextInt(4) == 0 ? 1 : 25); break;
     }
