@@ -31,6 +31,15 @@ public final class CapacityTests {
     Script.sentence("Description: numbered from 0 in the order in which they were added; greater numbers move down by one",
         Script.entries("a", 60, 79, 1), "removeEntry 10 = 19; wordOf 0 = 60; wordOf 9 = 69; wordOf 10 = 71; wordOf 18 = 79; wordOf 19 = -1",
         "removeEntry 18 = 18; wordOf 17 = 78; wordOf 18 = -1; removeEntry 0 = 17; wordOf 0 = 61; wordOf 16 = 78");
+    Script.sentence("Promise 27: undo gives back all of the entry 19",
+        Script.entries("a", 0, 18, 5), "type bcd; addEntry 9 3 60 = 19", Script.input("bcd"), "setConnection 6 3 7; choose 0 = 1; removeEntry 0 = 19",
+        "type b; addEntry 50 1 8 = 19; wordOf 19 = 50; costOf 19 = 8; useCount 19 = 0; undo = 5; undo = 4; wordOf 19 = 9; costOf 19 = 57",
+        "useCount 19 = 1; segmentsAt 0 = 1", Script.path(0, 64, "0:19"));
+    Script.sentence("Promise 5: an entry moves down with its reading, word, class, cost and use count",
+        "type a; addEntry 1 1 10; type ghijkl; addEntry 2 2 40; type mn; addEntry 3 3 50", Script.input("ghijklmn"), "choose 0 = 2",
+        "removeEntry 0 = 2; wordOf 0 = 2; costOf 0 = 37; useCount 0 = 1; wordOf 1 = 3; costOf 1 = 47; useCount 1 = 1",
+        "setConnection 6 2 5; setConnection 2 3 6", Script.path(0, 95, "0:0 6:1"), "segmentsAt 0 = 1; segmentsAt 6 = 1",
+        "type ghijkl; entriesWithPrefix = 1; addEntry 2 2 0 = -2; clearText; type mn; addEntry 3 3 0 = -2; addEntry 3 2 0 = 2");
     Script.sentence("Promise 16: twenty entries at one gap",
         Script.entries("a", 0, 19, 1), Script.input("aa"), "segmentsAt 0 = 20; segmentsAt 1 = 20; segmentsAt 2 = 0; pathCount = 441");
     Script.sentence("Promise 10: all of 20 entries",
@@ -47,6 +56,11 @@ public final class CapacityTests {
         "type abcdef; addEntry 0 0 7 = 0", Script.input("abcdef"), Script.path(0, 7, "0:0"),
         Script.input("abcdeg"), "segmentsAt 0 = 0; pathCount = 1", Script.input("abcde"), "segmentsAt 0 = 0; pathCount = 1",
         Script.input("xabcdefabcdefabc"), "segmentsAt 1 = 1; segmentsAt 7 = 1; segmentsAt 13 = 0; segmentsAt 0 = 0");
+    Script.sentence("Description: readings of all lengths from 1 to 6 at one gap",
+        "type a; addEntry 0 0 1; type ab; addEntry 0 0 2; type abc; addEntry 0 0 3; type abcd; addEntry 0 0 4; type abcde; addEntry 0 0 5",
+        "type abcdef; addEntry 0 0 6; setUnknownCost 1", Script.input("abcdef"), "segmentsAt 0 = 6; bestCount = 7; pathCount = 7",
+        Script.path(0, 6, "0:5"), Script.path(1, 6, "0:4 5:-5"), Script.path(5, 6, "0:0 1:-5 2:-5 3:-5 4:-5 5:-5"),
+        Script.path(6, 6, "0:-5 1:-5 2:-5 3:-5 4:-5 5:-5"), "bestThrough 5 0 = 6; bestThrough 0 0 = 6");
     Script.sentence("Description: a reading of 1 letter may be each of a to z",
         "type a; addEntry 0 0 1 = 0; type z; addEntry 0 0 2 = 1; type m; addEntry 0 0 3 = 2", Script.input("zma"),
         Script.path(0, 6, "0:1 1:2 2:0"));
@@ -54,6 +68,15 @@ public final class CapacityTests {
         "type abcdef; addEntry 0 0 0 = 0; type abc; addEntry 0 0 0 = 1; type abcde; entriesWithPrefix = 1; appendCharacter 102 = 6",
         "entriesWithPrefix = 1; appendCharacter 103 = 7; entriesWithPrefix = 0; clearText = 7; type abc; entriesWithPrefix = 2",
         "appendCharacter 100 = 4; entriesWithPrefix = 1; clearText; type " + Script.letters(20, 'a'), "entriesWithPrefix = 0");
+  }
+
+  private static void longTexts() {
+    Script.sentence("Promise 10: a text of 7 letters begins no reading, not even two that stand one behind the other",
+        "type abcdef; addEntry 0 0 0 = 0; type ghi; addEntry 0 0 0 = 1; type abcdefg; entriesWithPrefix = 0; type hi; entriesWithPrefix = 0",
+        "addEntry 0 0 0 = -16; clearText = 9; type abcdef; entriesWithPrefix = 1; addEntry 0 0 0 = -2");
+    Script.sentence("Promise 10: a text of 7 letters, and one of 20, when the entry 19 has a reading of 6",
+        Script.entries("b", 0, 18, 5), "type aaaaaa; addEntry 0 0 0 = 19; type aaaaaa; entriesWithPrefix = 1; type a; entriesWithPrefix = 0",
+        "type aaaaaaaaaaaaa; entriesWithPrefix = 0; addEntry 0 0 0 = -3; clearText = 20; entriesWithPrefix = 20");
   }
 
   private static void inputs() {
@@ -67,6 +90,10 @@ public final class CapacityTests {
     Script.sentence("Promise 13: a refused input leaves the constraints",
         Script.input("aaa"), "setConstraint 1 2; setConstraint 2 1; type " + Script.letters(17, 'a'),
         "setInput = -26; setConstraint 1 0 = 2; setConstraint 2 0 = 1");
+    Script.sentence("Promise 27: undo gives back all of the 16 letters and 15 constraints",
+        "type b; addEntry 0 0 5; type c; addEntry 0 0 5", Script.input("baaaaaaaaaaaaaac"), "setConstraint 1 1; setConstraint 15 2; setConstraint 15 1",
+        Script.input("caaaaaaaaaaaaaab"), "segmentEntry 0 0 = 1; segmentEntry 0 15 = 0; undo = 5; segmentEntry 0 0 = 0; segmentEntry 0 15 = 1",
+        "undo = 4; pathCount = 0; setConstraint 15 0 = 2; setConstraint 1 0 = 1; segmentEntry 0 15 = 1");
     Script.sentence("Description: the last letter of 16 can begin a reading of 1 letter, but none of 2",
         "type aa; addEntry 0 0 3 = 0; type a; addEntry 0 0 2 = 1", Script.input(Script.letters(16, 'a')),
         "segmentsAt 14 = 2; segmentsAt 15 = 1; segmentsAt 16 = 0; bestThrough 0 14 = 24; bestThrough 0 15 = -9; bestThrough 1 15 = 25");
@@ -226,6 +253,7 @@ public final class CapacityTests {
     textBuffer();
     dictionary();
     readings();
+    longTexts();
     inputs();
     useCounts();
     costs();

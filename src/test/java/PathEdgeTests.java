@@ -130,7 +130,23 @@ public final class PathEdgeTests {
         "setConstraint 3 2; bestThrough 1 1 = -9; bestThrough 0 0 = -9; bestThrough 0 3 = -9");
   }
 
+  private static void behindAnotherInput() {
+    Script.sentence("Promise 22: NONE for a segment that stood in an earlier input",
+        Script.entries("a", 0, 2, 5), Script.entries("b", 3, 3, 5), Script.input("a"), "bestThrough 0 0 = 5; bestThrough 2 0 = 5",
+        Script.input("b"), "bestThrough 3 0 = 5; bestThrough 0 0 = -9; bestThrough 1 0 = -9; bestThrough 2 0 = -9; undo = 5; bestThrough 2 0 = 5");
+    Script.sentence("Promises 17 to 24: a shorter input behind a longer one",
+        Script.entries("a", 0, 1, 5), Script.input(Script.letters(16, 'a')), "pathCount = 43046721; bestCount = 65536; pathCost 0 = 80",
+        Script.input("aa"), "pathCount = 9; bestCount = 4; pathCost 0 = 10; pathCost 8 = 200; pathCost 9 = -9; segmentCount 8 = 2; segmentStart 0 2 = -9",
+        "boundaryInBest 1 = 2; boundaryInBest 2 = -1");
+  }
+
   private static void boundaries() {
+    for (int start = 0; start <= 14; start++) {
+      Script.sentence("Promise 23: a segment of 2 letters spans the gap between them; it starts at " + start,
+          "type ab; addEntry 0 0 80", Script.input(Script.letters(start, 'q') + "ab" + Script.letters(14 - start, 'q')),
+          "boundaryInBest " + (start + 1) + " = 0; setUnknownCost 40; boundaryInBest " + (start + 1) + " = 1; setUnknownCost 39; boundaryInBest "
+              + (start + 1) + " = 2");
+    }
     Script.sentence("Promise 23: 2 in all best paths, 1 in some of them but not all, 0 in none",
         "type ab; addEntry 0 0 20; type a; addEntry 0 0 10; type b; addEntry 0 0 10; type c; addEntry 0 0 10", Script.input("abc"),
         "boundaryInBest 1 = 1; boundaryInBest 2 = 2; bestCount = 2; choose 0 = 2; boundaryInBest 1 = 0; boundaryInBest 2 = 2; bestCount = 1; undo = 5",
@@ -157,6 +173,7 @@ public final class PathEdgeTests {
     costs();
     order();
     bestThrough();
+    behindAnotherInput();
     boundaries();
     Script.finish();
   }
